@@ -185,18 +185,18 @@ public final class AdaptiveTrees {
             throw new IndexOutOfBoundsException("no such end or tree");
         }
         Tree tree = treeOf(end, t);
-        if (i < 0 || i >= tree.size) {
+        if (!tree.hasNode(i)) {
             throw new IndexOutOfBoundsException("no such node");
         }
         switch (what) {
             case 0:
-                return tree.count[i];
+                return tree.countAt(i);
             case 1:
-                return tree.sign[i];
+                return tree.signAt(i);
             case 2:
-                return tree.parent[i];
+                return tree.parentOf(i);
             case 3:
-                return tree.first[i];
+                return tree.childOf(i, 0);
             default:
                 throw new IndexOutOfBoundsException("a node has no such number");
         }
@@ -274,7 +274,7 @@ public final class AdaptiveTrees {
     private void layCode(Tree tree, int sign) {
         laid.length = 0;
         if (tree.hasLeafOf(sign)) {
-            tree.layWayTo(tree.leaf[sign], laid);
+            tree.layWayTo(tree.leafOf(sign), laid);
         } else {
             tree.layWayTo(tree.escapePlace, laid);
             laid.appendNumber(sign, width);
@@ -284,32 +284,31 @@ public final class AdaptiveTrees {
     private int readBit(int t, int bit) {
         Tree tree = readers[t];
         reading.enterCodeOf(t);
-        if (tree.sign[reading.node] == ESCAPE) {
-            return readNumberBit(tree, bit);
-        }
-        reading.node = tree.childOf(reading.node, bit);
-        int sign = tree.sign[reading.node];
-        if (sign < 0) {
+        boolean inNumber = tree.signAt(reading.node) == ESCAPE;
+        int answer = inNumber ? takeNumberBit(tree, bit) : takeWayBit(tree, bit);
+        if (answer == NONE) {
             return NONE;
         }
         reading.begin();
-        tree.stepBy(sign, stepLimit);
-        return sign;
+        if (answer != REFUSED) {
+            tree.stepBy(answer, stepLimit);
+        }
+        return answer;
     }
 
-    private int readNumberBit(Tree tree, int bit) {
+    private int takeWayBit(Tree tree, int bit) {
+        reading.node = tree.childOf(reading.node, bit);
+        int sign = tree.signAt(reading.node);
+        return sign >= 0 ? sign : NONE;
+    }
+
+    private int takeNumberBit(Tree tree, int bit) {
         reading.number = 2 * reading.number + bit;
         reading.numberBits++;
         if (reading.numberBits < width) {
             return NONE;
         }
-        int sign = reading.number;
-        reading.begin();
-        if (!isSign(sign) || tree.hasLeafOf(sign)) {
-            return REFUSED;
-        }
-        tree.stepBy(sign, stepLimit);
-        return sign;
+        return isSign(reading.number) && !tree.hasLeafOf(reading.number) ? reading.number : REFUSED;
     }
 
     /** Where the READER is: in a CODE of a TREE, or AT A BEGINNING. */
@@ -391,14 +390,14 @@ public final class AdaptiveTrees {
 
         void append(int itsCount, int itsSign) {
             if (size < count.length) {
-                set(size, itsCount, itsSign, NONE);
                 size++;
+                set(size - 1, itsCount, itsSign, NONE);
             }
         }
 
         /** Puts the PARENT of the last two in their stead, whose first child has its place already. */
         void joinLastTwo(int firstChild) {
-            if (size < 2) {
+            if (size < 2 || size > count.length) {
                 return;
             }
             int together = count[size - 2] + count[size - 1];
@@ -411,10 +410,16 @@ public final class AdaptiveTrees {
             size--;
         }
 
+        boolean has(int at) {
+            return at >= 0 && at < size && at < count.length;
+        }
+
         private void set(int at, int itsCount, int itsSign, int itsFirst) {
-            count[at] = itsCount;
-            sign[at] = itsSign;
-            first[at] = itsFirst;
+            if (has(at)) {
+                count[at] = itsCount;
+                sign[at] = itsSign;
+                first[at] = itsFirst;
+            }
         }
     }
 
@@ -485,31 +490,57 @@ public final class AdaptiveTrees {
 
         /** Gives a node all but its PARENT, and tells it to those that point to it. */
         private void fill(int at, int itsCount, int itsSign, int itsFirst, int itsSecond) {
+            if (!hasNode(at)) {
+                return;
+            }
             count[at] = itsCount;
             sign[at] = itsSign;
             first[at] = itsFirst;
             second[at] = itsSecond;
-            if (itsFirst != NONE) {
+            if (hasNode(itsFirst) && hasNode(itsSecond)) {
                 parent[itsFirst] = at;
                 parent[itsSecond] = at;
             } else if (itsSign == ESCAPE) {
                 escapePlace = at;
-            } else {
+            } else if (itsSign >= 0 && itsSign < leaf.length) {
                 leaf[itsSign] = at;
             }
         }
 
+        boolean hasNode(int at) {
+            return at >= 0 && at < size && at < sign.length;
+        }
+
         boolean hasLeafOf(int s) {
-            return leaf[s] != NONE;
+            return leafOf(s) != NONE;
+        }
+
+        int leafOf(int s) {
+            return s >= 0 && s < leaf.length ? leaf[s] : NONE;
+        }
+
+        int countAt(int at) {
+            return hasNode(at) ? count[at] : 0;
+        }
+
+        int signAt(int at) {
+            return hasNode(at) ? sign[at] : INNER;
+        }
+
+        int parentOf(int at) {
+            return hasNode(at) ? parent[at] : NONE;
         }
 
         int childOf(int at, int bit) {
+            if (!hasNode(at)) {
+                return NONE;
+            }
             return bit == 0 ? first[at] : second[at];
         }
 
         int depthOf(int at) {
             int depth = 0;
-            for (int up = parent[at]; up != NONE && depth < size; up = parent[up]) {
+            for (int up = parentOf(at); up != NONE && depth < size; up = parentOf(up)) {
                 depth++;
             }
             return depth;
@@ -518,9 +549,10 @@ public final class AdaptiveTrees {
         /** For a row that is empty: the way is found from its end, and so turned round. */
         void layWayTo(int node, Code code) {
             int at = node;
-            for (int steps = 0; parent[at] != NONE && steps < size; steps++) {
-                code.append(first[parent[at]] == at ? 0 : 1);
-                at = parent[at];
+            for (int steps = 0; parentOf(at) != NONE && steps < size; steps++) {
+                int above = parentOf(at);
+                code.append(childOf(above, 0) == at ? 0 : 1);
+                at = above;
             }
             code.reverse();
         }
@@ -534,7 +566,7 @@ public final class AdaptiveTrees {
                 splitEscapeFor(s);
             }
             stepCounted(s);
-            if (count[ROOT] >= limit) {
+            if (countAt(ROOT) >= limit) {
                 halve();
             }
         }
@@ -542,7 +574,7 @@ public final class AdaptiveTrees {
         private void splitEscapeFor(int s) {
             int at = escapePlace;
             int behind = size;
-            if (at == NONE || behind + 1 >= sign.length) {
+            if (!hasNode(at) || behind + 1 >= sign.length) {
                 return;
             }
             size += 2;
@@ -552,8 +584,8 @@ public final class AdaptiveTrees {
         }
 
         private void stepCounted(int s) {
-            int at = leaf[s];
-            for (int steps = 0; at != NONE && steps < size; steps++) {
+            int at = leafOf(s);
+            for (int steps = 0; hasNode(at) && steps < size; steps++) {
                 int ahead = leastPlaceToChange(at);
                 if (ahead < at) {
                     changePlaces(ahead, at);
@@ -567,7 +599,7 @@ public final class AdaptiveTrees {
         /** The node's own PLACE, if none that is ahead may change with it. */
         private int leastPlaceToChange(int at) {
             for (int i = 0; i < at; i++) {
-                if (count[i] == count[at] && i != parent[at]) {
+                if (countAt(i) == countAt(at) && i != parentOf(at)) {
                     return i;
                 }
             }
@@ -575,6 +607,9 @@ public final class AdaptiveTrees {
         }
 
         private void changePlaces(int a, int b) {
+            if (!hasNode(a) || !hasNode(b)) {
+                return;
+            }
             int keptCount = count[a];
             int keptSign = sign[a];
             int keptFirst = first[a];
@@ -599,27 +634,30 @@ public final class AdaptiveTrees {
         private void gatherPieces() {
             pieces.size = 0;
             for (int i = 0; i < size; i++) {
-                if (sign[i] != INNER) {
+                if (signAt(i) != INNER) {
                     // The ESCAPE's COUNT is 0, so that rounding up leaves it alone.
-                    pieces.append((count[i] + 1) / 2, sign[i]);
+                    pieces.append((countAt(i) + 1) / 2, signAt(i));
                 }
             }
         }
 
         private void settle(int piece, int at) {
+            if (!pieces.has(piece)) {
+                return;
+            }
             int itsFirst = pieces.first[piece];
             fill(at, pieces.count[piece], pieces.sign[piece], itsFirst, itsFirst == NONE ? NONE : itsFirst + 1);
         }
 
         private void stepSplayed(int s) {
-            int at = leaf[s];
+            int at = leafOf(s);
             for (int steps = 0; steps < size; steps++) {
-                int above = parent[at];
-                int top = above == NONE ? NONE : parent[above];
+                int above = parentOf(at);
+                int top = parentOf(above);
                 if (top == NONE) {
                     return;
                 }
-                int other = first[top] == above ? second[top] : first[top];
+                int other = childOf(top, childOf(top, 0) == above ? 1 : 0);
                 putChild(above, at, other);
                 putChild(top, other, at);
                 at = top;
@@ -627,6 +665,9 @@ public final class AdaptiveTrees {
         }
 
         private void putChild(int at, int old, int child) {
+            if (!hasNode(at) || !hasNode(child)) {
+                return;
+            }
             if (first[at] == old) {
                 first[at] = child;
             } else {
@@ -645,7 +686,7 @@ public final class AdaptiveTrees {
                 }
             }
             for (int s = 0; s < signs; s++) {
-                if (hasLeafOf(s) && sign[leaf[s]] != s) {
+                if (hasLeafOf(s) && signAt(leafOf(s)) != s) {
                     return false;
                 }
             }
@@ -653,18 +694,22 @@ public final class AdaptiveTrees {
         }
 
         private boolean isOnlyLeafOfItsSign(int i) {
-            return sign[i] < 0 || leaf[sign[i]] == i;
+            return signAt(i) < 0 || leafOf(signAt(i)) == i;
         }
 
         private boolean areChildrenWell(int i) {
-            return first[i] == NONE || parent[first[i]] == i && parent[second[i]] == i;
+            return isLeaf(i) || parentOf(childOf(i, 0)) == i && parentOf(childOf(i, 1)) == i;
         }
 
         private boolean isCountWell(int i) {
-            if (i > 0 && count[i] > count[i - 1]) {
+            if (i > ROOT && countAt(i) > countAt(i - 1)) {
                 return false;
             }
-            return first[i] == NONE || count[i] == count[first[i]] + count[second[i]];
+            return isLeaf(i) || countAt(i) == countAt(childOf(i, 0)) + countAt(childOf(i, 1));
+        }
+
+        private boolean isLeaf(int i) {
+            return childOf(i, 0) == NONE;
         }
 
         /** How often a TREE was HALVED does not count here. */
@@ -673,8 +718,8 @@ public final class AdaptiveTrees {
                 return false;
             }
             for (int i = 0; i < size; i++) {
-                if (count[i] != other.count[i] || sign[i] != other.sign[i]
-                        || first[i] != other.first[i] || second[i] != other.second[i]) {
+                if (countAt(i) != other.countAt(i) || signAt(i) != other.signAt(i)
+                        || childOf(i, 0) != other.childOf(i, 0) || childOf(i, 1) != other.childOf(i, 1)) {
                     return false;
                 }
             }
@@ -682,6 +727,9 @@ public final class AdaptiveTrees {
         }
 
         void becomeLike(Tree other) {
+            if (other.size > sign.length || other.signs != signs) {
+                return;
+            }
             form = other.form;
             size = other.size;
             escapePlace = other.escapePlace;

@@ -1,17 +1,9 @@
 /** Each promise of the document: ordinary calls, the edges that it names, wrong calls. */
-public final class PromisesTest {
-    private static final int NONE = -1, UNKNOWN = -2, OUTSIDE = -3, STATE = -4, ROOM = -5, REFUSED = -6;
-    private static final int WRITER = 0, READER = 1;
-    private static final int[] NO_TREES = {-1, 4, Integer.MIN_VALUE, Integer.MAX_VALUE};
-    private static final int[] NO_ENDS = {-1, 2, Integer.MIN_VALUE, Integer.MAX_VALUE};
-
-    private final Check check = new Check();
-    private String promise = "";
-
+public final class PromisesTest extends Check {
     public static void main(String[] args) {
         PromisesTest test = new PromisesTest();
         test.all();
-        test.check.end("PromisesTest");
+        test.end("PromisesTest");
     }
 
     private void all() {
@@ -39,52 +31,10 @@ public final class PromisesTest {
         codesOfLastSign();
     }
 
-    private void due(String call, long got, long want) {
-        check.due(promise + ": " + call, got, want);
-    }
-
-    private void dueCode(AdaptiveTrees x, int end, int t, int sign, String want) {
-        due("cost of " + sign, x.cost(end, t, sign), want.length());
-        for (int i = 0; i < want.length(); i++) {
-            due("code of " + sign + ", bit " + i, x.code(end, t, sign, i), want.charAt(i) - '0');
-        }
-        due("code of " + sign + ", behind it", x.code(end, t, sign, want.length()), NONE);
-    }
-
-    /** A row is COUNT, SIGN, PARENT, first child. */
-    private void dueNodes(AdaptiveTrees x, int end, int t, int[][] rows) {
-        due("nodes", x.nodes(end, t), rows.length);
-        for (int i = 0; i < rows.length; i++) {
-            for (int what = 0; what < 4; what++) {
-                due("node " + i + ", " + what, Check.node(x, end, t, i, what), rows[i][what]);
-            }
-        }
-    }
-
-    private static void putAll(AdaptiveTrees x, int t, int... signs) {
-        for (int sign : signs) {
-            x.put(t, sign);
-        }
-    }
-
-    /** Makes 1000 BITS, the last ones by TREE 3, where SIGN 0 has one bit then. */
-    private static AdaptiveTrees full() {
-        AdaptiveTrees x = new AdaptiveTrees(64);
-        x.form(0, 1);
-        x.put(3, 0);
-        for (int i = 0; x.bits() < 980 && i < 200; i++) {
-            x.put(0, i * 29 % 64);
-        }
-        for (int i = 0; x.bits() < 1000 && i < 40; i++) {
-            x.put(3, 0);
-        }
-        return x;
-    }
-
     private void aNewObject() {
-        promise = "1 a new object";
-        int[][] signsAndMost = {{2, 2}, {1, 2}, {0, 2}, {-7, 2}, {Integer.MIN_VALUE, 2}, {3, 3}, {63, 63},
-            {64, 64}, {65, 64}, {Integer.MAX_VALUE, 64}};
+        about("1 a new object");
+        int[][] signsAndMost = {{2, 2}, {1, 2}, {0, 2}, {-7, 2}, {LEAST, 2}, {3, 3}, {63, 63},
+            {64, 64}, {65, 64}, {MOST, 64}};
         for (int[] pair : signsAndMost) {
             AdaptiveTrees x = new AdaptiveTrees(pair[0]);
             due(pair[0] + " signs, the last one", x.knows(WRITER, 0, pair[1] - 1), 0);
@@ -112,7 +62,7 @@ public final class PromisesTest {
     }
 
     private void form() {
-        promise = "2 form";
+        about("2 form");
         AdaptiveTrees x = new AdaptiveTrees(4);
         putAll(x, 1, 0, 0, 1, 1);
         x.pull(1);
@@ -158,23 +108,23 @@ public final class PromisesTest {
     }
 
     private void limit() {
-        promise = "3 limit";
+        about("3 limit");
         AdaptiveTrees x = new AdaptiveTrees(2);
         due("first", x.limit(100000), 1000);
         due("next", x.limit(8), 100000);
         due("7", x.limit(7), OUTSIDE);
         due("100001", x.limit(100001), OUTSIDE);
-        due("least int", x.limit(Integer.MIN_VALUE), OUTSIDE);
-        due("most int", x.limit(Integer.MAX_VALUE), OUTSIDE);
+        due("least int", x.limit(LEAST), OUTSIDE);
+        due("most int", x.limit(MOST), OUTSIDE);
         due("8 is still there", x.limit(9), 8);
         putAll(x, 0, 0, 0, 0, 0, 0, 0, 0, 0);
         due("8 steps are below 9", x.halved(WRITER, 0), 0);
         x.limit(8);
         due("no step, not halved", x.halved(WRITER, 0), 0);
-        due("no step, root", Check.node(x, WRITER, 0, 0, 0), 8);
+        due("no step, root", node(x, WRITER, 0, 0, 0), 8);
         x.put(0, 0);
         due("the root has 9, more than the limit", x.halved(WRITER, 0), 1);
-        due("half of 9, rounded up", Check.node(x, WRITER, 0, 0, 0), 5);
+        due("half of 9, rounded up", node(x, WRITER, 0, 0, 0), 5);
         for (int i = 0; i < 8; i++) {
             x.pull(0);
         }
@@ -182,7 +132,7 @@ public final class PromisesTest {
     }
 
     private void put() {
-        promise = "4 put";
+        about("4 put");
         AdaptiveTrees x = new AdaptiveTrees(5);
         due("new", x.put(0, 4), 3);
         due("known", x.put(0, 4), 1);
@@ -203,7 +153,7 @@ public final class PromisesTest {
         due("no sign", x.put(0, -1), OUTSIDE);
         due("refused ones write nothing", x.bits(), want.length + 3);
 
-        x = full();
+        x = withBits(1000);
         due("1000 bits", x.bits(), 1000);
         due("one bit more", x.put(3, 0), ROOM);
         due("seven bits more", x.put(3, 1), ROOM);
@@ -219,7 +169,7 @@ public final class PromisesTest {
     }
 
     private void bitsAndBit() {
-        promise = "5 bits, 6 bit";
+        about("5 bits, 6 bit");
         AdaptiveTrees x = new AdaptiveTrees(8);
         due("bits at first", x.bits(), 0);
         due("bit 0 at first", x.bit(0), NONE);
@@ -230,8 +180,8 @@ public final class PromisesTest {
         due("bit 2", x.bit(2), 0);
         due("bit 3", x.bit(3), NONE);
         due("bit -1", x.bit(-1), NONE);
-        due("bit of the least int", x.bit(Integer.MIN_VALUE), NONE);
-        due("bit of the most int", x.bit(Integer.MAX_VALUE), NONE);
+        due("bit of the least int", x.bit(LEAST), NONE);
+        due("bit of the most int", x.bit(MOST), NONE);
         x.pull(2);
         due("bits that were taken stay", x.bits(), 3);
         due("bits that were taken stay", x.bit(0), 1);
@@ -240,7 +190,7 @@ public final class PromisesTest {
     }
 
     private void drop() {
-        promise = "7 drop";
+        about("7 drop");
         AdaptiveTrees x = new AdaptiveTrees(4);
         due("none", x.drop(), 0);
         putAll(x, 0, 3, 2);
@@ -261,7 +211,7 @@ public final class PromisesTest {
     }
 
     private void get() {
-        promise = "8 get";
+        about("8 get");
         AdaptiveTrees x = new AdaptiveTrees(3);
         due("first bit of a number", x.get(0, true), NONE);
         due("another tree", x.get(1, true), STATE);
@@ -273,7 +223,7 @@ public final class PromisesTest {
         due("it made a step", x.nodes(READER, 0), 3);
         due("the writer's did not", x.nodes(WRITER, 0), 1);
         due("a known one", x.get(0, false), 2);
-        due("its count", Check.node(x, READER, 0, 1, 0), 2);
+        due("its count", node(x, READER, 0, 1, 0), 2);
         due("to the escape", x.get(0, true), NONE);
         due("0", x.get(0, false), NONE);
         due("0", x.get(0, false), 0);
@@ -294,7 +244,7 @@ public final class PromisesTest {
     }
 
     private void getRefused() {
-        promise = "8 get, REFUSED";
+        about("8 get, REFUSED");
         AdaptiveTrees x = new AdaptiveTrees(3);
         due("1", x.get(0, true), NONE);
         due("3 is no sign", x.get(0, true), REFUSED);
@@ -304,7 +254,7 @@ public final class PromisesTest {
         due("escape", x.get(1, true), NONE);
         due("0", x.get(1, false), NONE);
         due("0 is known", x.get(1, false), REFUSED);
-        due("no step", Check.node(x, READER, 1, 0, 0), 1);
+        due("no step", node(x, READER, 1, 0, 0), 1);
         due("no step", x.nodes(READER, 1), 3);
         due("at a beginning", x.get(1, false), 0);
 
@@ -321,7 +271,7 @@ public final class PromisesTest {
     }
 
     private void pullAndPulled() {
-        promise = "9 pull, 10 pulled";
+        about("9 pull, 10 pulled");
         AdaptiveTrees x = new AdaptiveTrees(4);
         due("nothing to pull", x.pull(0), NONE);
         due("nothing pulled", x.pulled(), 0);
@@ -369,7 +319,7 @@ public final class PromisesTest {
     }
 
     private void costAndCode() {
-        promise = "11 cost, 12 code";
+        about("11 cost, 12 code");
         AdaptiveTrees x = new AdaptiveTrees(5);
         dueCode(x, WRITER, 0, 4, "100");
         putAll(x, 0, 2, 2, 0);
@@ -378,8 +328,8 @@ public final class PromisesTest {
         dueCode(x, WRITER, 0, 3, "11011");
         dueCode(x, READER, 0, 3, "011");
         due("bit -1", x.code(WRITER, 0, 3, -1), NONE);
-        due("bit of the least int", x.code(WRITER, 0, 3, Integer.MIN_VALUE), NONE);
-        due("bit of the most int", x.code(WRITER, 0, 3, Integer.MAX_VALUE), NONE);
+        due("bit of the least int", x.code(WRITER, 0, 3, LEAST), NONE);
+        due("bit of the most int", x.code(WRITER, 0, 3, MOST), NONE);
         for (int t : NO_TREES) {
             due("cost, no tree", x.cost(WRITER, t, 9), UNKNOWN);
             due("code, no tree", x.code(WRITER, t, 9, 0), UNKNOWN);
@@ -388,7 +338,7 @@ public final class PromisesTest {
             due("cost, no end", x.cost(end, 0, 9), UNKNOWN);
             due("code, no end", x.code(end, 0, 9, 0), UNKNOWN);
         }
-        for (int sign : new int[] {-1, 5, Integer.MIN_VALUE, Integer.MAX_VALUE}) {
+        for (int sign : new int[] {-1, 5, LEAST, MOST}) {
             due("cost, no sign", x.cost(WRITER, 0, sign), OUTSIDE);
             due("code, no sign", x.code(READER, 0, sign, -1), OUTSIDE);
         }
@@ -401,7 +351,7 @@ public final class PromisesTest {
     }
 
     private void knows() {
-        promise = "13 knows";
+        about("13 knows");
         AdaptiveTrees x = new AdaptiveTrees(6);
         due("not yet", x.knows(WRITER, 0, 5), 0);
         x.put(0, 5);
@@ -425,7 +375,7 @@ public final class PromisesTest {
     }
 
     private void escape() {
-        promise = "14 escape";
+        about("14 escape");
         AdaptiveTrees x = new AdaptiveTrees(3);
         due("alone", x.escape(WRITER, 0), 0);
         x.put(0, 0);
@@ -442,7 +392,7 @@ public final class PromisesTest {
     }
 
     private void halved() {
-        promise = "15 halved";
+        about("15 halved");
         AdaptiveTrees x = new AdaptiveTrees(2);
         x.limit(8);
         putAll(x, 0, 0, 0, 0, 0, 0, 1, 1);
@@ -472,12 +422,12 @@ public final class PromisesTest {
             x.put(0, sign);
         }
         due("each step once", x.halved(WRITER, 0), 5);
-        due("more than the limit", Check.node(x, WRITER, 0, 0, 0), 12);
+        due("more than the limit", node(x, WRITER, 0, 0, 0), 12);
         due("well", x.well(WRITER, 0), 1);
     }
 
     private void nodes() {
-        promise = "16 nodes";
+        about("16 nodes");
         AdaptiveTrees x = new AdaptiveTrees(64);
         for (int sign = 0; sign < 64; sign++) {
             due("nodes", x.nodes(WRITER, 0), 2 * sign + 1);
@@ -511,7 +461,7 @@ public final class PromisesTest {
     }
 
     private void node() {
-        promise = "17 node";
+        about("17 node");
         AdaptiveTrees x = new AdaptiveTrees(4);
         putAll(x, 0, 3, 3, 1);
         dueNodes(x, WRITER, 0, new int[][] {{3, -1, NONE, 1}, {2, 3, 0, NONE}, {1, -1, 0, 3}, {1, 1, 2, NONE},
@@ -519,27 +469,27 @@ public final class PromisesTest {
         int[][] none = {{-1, 0, 0, 0}, {2, 0, 0, 0}, {0, -1, 0, 0}, {0, 4, 0, 0}, {0, 0, -1, 0}, {0, 0, 5, 0},
             {0, 0, 0, -1}, {0, 0, 0, 4}, {1, 0, 1, 0}, {0, 1, 1, 0}, {0, 0, 5, 1}, {0, 0, 5, 2}, {0, 0, 5, 3}};
         for (int[] row : none) {
-            due("none such", Check.node(x, row[0], row[1], row[2], row[3]), Check.THROWS);
+            due("none such", node(x, row[0], row[1], row[2], row[3]), THROWS);
         }
-        for (int far : new int[] {Integer.MIN_VALUE, Integer.MAX_VALUE}) {
-            due("no end", Check.node(x, far, 0, 0, 0), Check.THROWS);
-            due("no tree", Check.node(x, 0, far, 0, 0), Check.THROWS);
-            due("no node", Check.node(x, 0, 0, far, 0), Check.THROWS);
-            due("no what", Check.node(x, 0, 0, 0, far), Check.THROWS);
+        for (int far : new int[] {LEAST, MOST}) {
+            due("no end", node(x, far, 0, 0, 0), THROWS);
+            due("no tree", node(x, 0, far, 0, 0), THROWS);
+            due("no node", node(x, 0, 0, far, 0), THROWS);
+            due("no what", node(x, 0, 0, 0, far), THROWS);
         }
     }
 
     private void nodesOfSplayed() {
-        promise = "17 node, SPLAYED";
+        about("17 node, SPLAYED");
         AdaptiveTrees x = new AdaptiveTrees(3);
         x.form(3, 1);
         dueNodes(x, READER, 3, new int[][] {{0, -1, NONE, 1}, {0, -1, 0, 3}, {0, 0, 0, NONE}, {0, 1, 1, NONE},
             {0, 2, 1, NONE}});
-        due("node 5", Check.node(x, READER, 3, 5, 0), Check.THROWS);
-        due("node -1", Check.node(x, READER, 3, -1, 0), Check.THROWS);
-        due("what 4", Check.node(x, READER, 3, 0, 4), Check.THROWS);
+        due("node 5", node(x, READER, 3, 5, 0), THROWS);
+        due("node -1", node(x, READER, 3, -1, 0), THROWS);
+        due("what 4", node(x, READER, 3, 0, 4), THROWS);
         x.form(3, 0);
-        due("COUNTED, node 1", Check.node(x, READER, 3, 1, 0), Check.THROWS);
+        due("COUNTED, node 1", node(x, READER, 3, 1, 0), THROWS);
         AdaptiveTrees two = new AdaptiveTrees(2);
         two.form(0, 1);
         dueNodes(two, WRITER, 0, new int[][] {{0, -1, NONE, 1}, {0, 0, 0, NONE}, {0, 1, 0, NONE}});
@@ -548,7 +498,7 @@ public final class PromisesTest {
     }
 
     private void wellAndSame() {
-        promise = "18 well, 19 same";
+        about("18 well, 19 same");
         AdaptiveTrees x = new AdaptiveTrees(5);
         x.form(1, 1);
         x.limit(9);
@@ -604,7 +554,7 @@ public final class PromisesTest {
     }
 
     private void save() {
-        promise = "20 save";
+        about("20 save");
         AdaptiveTrees x = new AdaptiveTrees(3);
         for (int slot = 0; slot < 4; slot++) {
             due("had none", x.save(slot, slot % 2, slot), 0);
@@ -629,8 +579,8 @@ public final class PromisesTest {
         due("the tree itself goes on", x.nodes(WRITER, 0), 5);
         x.get(3, false);
         x.restore(0, READER, 2);
-        due("the slot stays as it is", Check.node(x, READER, 2, 0, 0), 1);
-        due("the tree that had it went on", Check.node(x, READER, 3, 0, 0), 2);
+        due("the slot stays as it is", node(x, READER, 2, 0, 0), 1);
+        due("the tree that had it went on", node(x, READER, 3, 0, 0), 2);
         x.save(0, WRITER, 0);
         x.restore(0, READER, 2);
         due("a slot takes a new one", x.nodes(READER, 2), 5);
@@ -640,7 +590,7 @@ public final class PromisesTest {
     }
 
     private void restore() {
-        promise = "21 restore";
+        about("21 restore");
         AdaptiveTrees x = new AdaptiveTrees(4);
         x.form(1, 1);
         x.put(1, 0);
@@ -688,7 +638,7 @@ public final class PromisesTest {
     }
 
     private void stepsOfCounted() {
-        promise = "terms, COUNTED";
+        about("terms, COUNTED");
         AdaptiveTrees x = new AdaptiveTrees(3);
         x.limit(8);
         putAll(x, 0, 0, 0, 0, 0, 1, 1, 2);
@@ -710,7 +660,7 @@ public final class PromisesTest {
     }
 
     private void stepsOfSplayed() {
-        promise = "terms, SPLAYED";
+        about("terms, SPLAYED");
         AdaptiveTrees x = new AdaptiveTrees(5);
         x.form(0, 1);
         putAll(x, 0, 4, 4, 0);
@@ -729,7 +679,7 @@ public final class PromisesTest {
     }
 
     private void codesOfLastSign() {
-        promise = "terms, 64 SIGNS there and back";
+        about("terms, 64 SIGNS there and back");
         AdaptiveTrees x = new AdaptiveTrees(64);
         x.form(1, 1);
         x.limit(40);
