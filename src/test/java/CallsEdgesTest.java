@@ -589,9 +589,13 @@ public final class CallsEdgesTest extends Check {
         }
         due("the READER's", x.halved(READER, 0), 0);
         due("another one", x.halved(WRITER, 1), 0);
+        x.save(0, WRITER, 0);
         x.form(0, COUNTED);
         due("as at first", x.halved(WRITER, 0), 0);
+        x.restore(0, WRITER, 0);
+        due("taken back", x.halved(WRITER, 0), 2);
         x.form(0, SPLAYED);
+        due("as at first, SPLAYED", x.halved(WRITER, 0), 0);
         for (int i = 0; i < 20; i++) {
             x.put(0, 0);
         }
@@ -658,7 +662,7 @@ public final class CallsEdgesTest extends Check {
     }
 
     private void nodeNumbers() {
-        about("Promise 17: its SIGN (-1: it is no LEAF, -2: the ESCAPE), PARENT (NONE: the root), first child (NONE: a LEAF)");
+        about("Promise 17: -1: it is no LEAF, -2: the ESCAPE; NONE: the root; NONE: a LEAF; SPLAYED: 0");
         AdaptiveTrees x = new AdaptiveTrees(2);
         // The ESCAPE is the root, and a LEAF.
         dueNodes(x, WRITER, 0, row(0, -2, NONE, NONE));
@@ -814,6 +818,7 @@ public final class CallsEdgesTest extends Check {
         due("halved", x.halved(READER, 1), 1);
         dueNodes(x, READER, 1, row(5, -1, NONE, 1), row(4, 1, 0, NONE), row(1, -1, 0, 3), row(1, 0, 2, NONE),
                 row(0, -2, 2, NONE));
+        due("its ESCAPE", x.escape(READER, 1), 2);
         due("the WRITER's is not", x.escape(WRITER, 1), NONE);
         x.save(2, WRITER, 1);
         due("SPLAYED over COUNTED", x.restore(2, WRITER, 0), SPLAYED);
@@ -828,6 +833,11 @@ public final class CallsEdgesTest extends Check {
         dueAsAtFirst(x, WRITER, 0);
         dueCode(x, WRITER, 0, 1, "1");
         due("BITS stay", x.bits() > 0 ? 1 : 0, 1);
+        putAll(x, 2, 0);
+        x.save(1, WRITER, 2);
+        x.restore(1, WRITER, 3);
+        due("its ESCAPE", x.escape(WRITER, 3), 1);
+        dueCode(x, WRITER, 3, 1, "11");
     }
 
     private void restoreInACodeOfIt() {

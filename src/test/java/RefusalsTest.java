@@ -253,6 +253,12 @@ public final class RefusalsTest extends Check {
             calls.add(new Refused("put in tree " + t, ROOM, x -> x.put(t, 0)));
             calls.add(new Refused("put in tree " + t, ROOM, x -> x.put(t, 63)));
         }
-        dueRefused("what is refused changes nothing, with 1000 BITS", () -> withBits(1000), calls);
+        addOtherTrees(calls, 1);
+        dueRefused("what is refused changes nothing, with 1000 BITS", () -> {
+            AdaptiveTrees x = withBits(1000);
+            x.pull(3);
+            x.get(1, true);
+            return x;
+        }, calls);
     }
 }
