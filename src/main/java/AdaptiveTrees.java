@@ -598,8 +598,10 @@ public final class AdaptiveTrees {
 
         /** The node's own PLACE, if none that is ahead may change with it. */
         private int leastPlaceToChange(int at) {
+            int itsCount = countAt(at);
+            int above = parentOf(at);
             for (int i = 0; i < at; i++) {
-                if (countAt(i) == countAt(at) && i != parentOf(at)) {
+                if (countAt(i) == itsCount && i != above) {
                     return i;
                 }
             }
